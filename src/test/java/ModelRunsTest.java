@@ -1,9 +1,14 @@
 import java.util.Arrays;
 
-/** Long runs of calls, answer by answer against a plain model that holds one place for each number. */
+/**
+ * Runs of 512 calls, as many as the document allows, answer by answer against a plain model that holds one
+ * place for each number. The last calls of a run only ask.
+ */
 public final class ModelRunsTest {
-    private static final int RUNS = 400;
+    private static final int RUNS = 3000;
     private static final int CALLS = 512;
+    private static final int KINDS_THAT_CHANGE = 8;
+    private static final int KINDS = 22;
     private static final int JUG = 8;
     private static final int DRUNK = 9;
     private static final int SPILT = 10;
@@ -112,8 +117,33 @@ public final class ModelRunsTest {
                 case 4: return share(a, b, c);
                 case 5: return giveBack(a);
                 case 6: return noGoblet(a) ? INDEX : replace(a, SPILT);
-                default: return nextRound();
+                case 7: return nextRound();
+                default: return ask(kind, a);
             }
+        }
+
+        private long ask(int kind, int a) {
+            switch (kind) {
+                case 8: return size;
+                case 9: return round;
+                case 10: return count(JUG);
+                case 11: return edges(JUG).length / 2;
+                case 12: return edgeOfJug(a, 0);
+                case 13: return edgeOfJug(a, 1);
+                case 14: return longest();
+                case 15: return noGoblet(a) ? INDEX : count(a);
+                case 16: return noGoblet(a) ? INDEX : edges(a).length / 2;
+                case 17: return noGoblet(a) ? INDEX : lowest(a) != 0 ? lowest(a) : lowest(JUG);
+                case 18: return a < 0 || a > 5000 ? -1 : placeOf[a];
+                case 19: return count(DRUNK);
+                case 20: return count(SPILT);
+                default: return lowestLeft();
+            }
+        }
+
+        private long edgeOfJug(int range, int side) {
+            int[] edges = edges(JUG);
+            return range < 0 || range >= edges.length / 2 ? INDEX : edges[2 * range + side];
         }
 
         private static boolean noGoblet(int goblet) {
@@ -201,7 +231,8 @@ public final class ModelRunsTest {
                 case 4: return x.share(a, b, c);
                 case 5: return x.giveBack(a);
                 case 6: return x.spill(a);
-                default: return x.nextRound();
+                case 7: return x.nextRound();
+                default: return askProgram(x, kind, a);
             }
         } catch (RuntimeException e) {
             if (e.getClass() == IndexOutOfBoundsException.class) {
@@ -211,6 +242,25 @@ public final class ModelRunsTest {
                 return ARGUMENT;
             }
             return e.getClass() == IllegalStateException.class ? STATE : OTHER;
+        }
+    }
+
+    private static long askProgram(NumberGoblets x, int kind, int a) {
+        switch (kind) {
+            case 8: return x.size();
+            case 9: return x.round();
+            case 10: return x.inJug();
+            case 11: return x.ranges();
+            case 12: return x.rangeFrom(a);
+            case 13: return x.rangeTo(a);
+            case 14: return x.longestRange();
+            case 15: return x.inGoblet(a);
+            case 16: return x.rangesOf(a);
+            case 17: return x.nextOf(a);
+            case 18: return x.placeOf(a);
+            case 19: return x.drunk();
+            case 20: return x.spilt();
+            default: return x.lowestLeft();
         }
     }
 
@@ -229,10 +279,26 @@ public final class ModelRunsTest {
         return kind == 0 ? 200 + below(3) : kind == 1 ? -below(2) : kind < 8 ? 1 + below(60) : 1 + below(6);
     }
 
-    private static int someKind(int run) {
+    private static int someChange(int run) {
         int kind = below(run % 2 == 0 ? 100 : 60);
         return kind < 2 ? 0 : kind < 14 ? 1 : kind < 30 ? 2 : kind < 34 ? 3 : kind < 46 ? 4
                 : kind < 56 ? 5 : kind < 59 ? 6 : kind < 60 ? 7 : kind < 80 ? 2 : 5;
+    }
+
+    private static int someQuestion() {
+        return KINDS_THAT_CHANGE + below(KINDS - KINDS_THAT_CHANGE);
+    }
+
+    /** The first argument, mostly one that the call takes. */
+    private static int someArgument(int run, int kind, Model model) {
+        switch (kind) {
+            case 0: return run % 40 == 0 && below(4) == 0 ? 4990 + below(12) : model.size + below(12) - 1;
+            case 5: return below(20) == 0 ? below(model.size + 3) - 1 : someDrunk(model);
+            case 12:
+            case 13: return below(model.edges(JUG).length / 2 + 2) - 1;
+            case 18: return below(model.size + 3) - 1;
+            default: return someGoblet();
+        }
     }
 
     private static int someDrunk(Model model) {
@@ -252,56 +318,17 @@ public final class ModelRunsTest {
         }
     }
 
-    private static void compare(int run, int call, NumberGoblets x, Model model) {
-        due(run, call, "size", x.size(), model.size);
-        due(run, call, "round", x.round(), model.round);
-        due(run, call, "inJug", x.inJug(), model.count(JUG));
-        due(run, call, "drunk", x.drunk(), model.count(DRUNK));
-        due(run, call, "spilt", x.spilt(), model.count(SPILT));
-        due(run, call, "lowestLeft", x.lowestLeft(), model.lowestLeft());
-        due(run, call, "longestRange", x.longestRange(), model.longest());
-        int[] edges = model.edges(JUG);
-        due(run, call, "ranges", x.ranges(), edges.length / 2);
-        for (int range = 0; range < Math.min(x.ranges(), edges.length / 2); range++) {
-            due(run, call, "rangeFrom " + range, x.rangeFrom(range), edges[2 * range]);
-            due(run, call, "rangeTo " + range, x.rangeTo(range), edges[2 * range + 1]);
-        }
-        for (int goblet = 0; goblet < 8; goblet++) {
-            due(run, call, "inGoblet " + goblet, x.inGoblet(goblet), model.count(goblet));
-            due(run, call, "rangesOf " + goblet, x.rangesOf(goblet), model.edges(goblet).length / 2);
-            int next = model.lowest(goblet) != 0 ? model.lowest(goblet) : model.lowest(JUG);
-            due(run, call, "nextOf " + goblet, x.nextOf(goblet), next);
-        }
-    }
-
-    private static void comparePlaces(int run, int call, NumberGoblets x, Model model) {
-        for (int number = 1; number <= 5000; number++) {
-            due(run, call, "placeOf " + number, x.placeOf(number), model.placeOf[number]);
-        }
-    }
-
     private static void oneRun(int run) {
         NumberGoblets x = new NumberGoblets();
         Model model = new Model();
+        int changing = 20 + below(CALLS - 20);
         for (int call = 1; call <= CALLS; call++) {
-            int kind = someKind(run);
-            int a = someGoblet();
+            int kind = call <= changing && below(4) != 0 ? someChange(run) : someQuestion();
+            int a = someArgument(run, kind, model);
             int b = kind == 4 ? someGoblet() : someCount();
             int c = someCount();
-            if (kind == 0) {
-                a = run % 40 == 0 && below(4) == 0 ? 4990 + below(12) : model.size + below(12) - 1;
-            }
-            if (kind == 5) {
-                a = below(20) == 0 ? below(model.size + 3) - 1 : someDrunk(model);
-            }
             String what = "kind " + kind + " (" + a + ", " + b + ", " + c + ")";
             due(run, call, what, callProgram(x, kind, a, b, c), model.call(kind, a, b, c));
-            if (model.size < 1000 || call % 16 == 0) {
-                compare(run, call, x, model);
-            }
-            if (call % 32 == 0) {
-                comparePlaces(run, call, x, model);
-            }
         }
     }
 
