@@ -2,6 +2,7 @@ import java.io.IOException;
 import java.lang.reflect.InvocationTargetException;
 import java.lang.reflect.Method;
 import java.lang.reflect.Modifier;
+import java.nio.file.FileVisitOption;
 import java.nio.file.Files;
 import java.nio.file.Path;
 import java.nio.file.StandardCopyOption;
@@ -98,10 +99,10 @@ public final class ReadmeTest {
 
     // ---- how to run its tests
 
-    /** A copy of the project and of what is shared, without this test, which would otherwise run itself again. */
+    /** A copy of the project and of the shared tests, without this test, which would otherwise run itself again. */
     private static void makeCleanCheckout() throws IOException {
         delete(SCRATCH);
-        copy(Path.of("../shared"), SHARED);
+        copy(Path.of("../shared/tests"), SHARED.resolve("tests"));
         Files.createDirectories(CHECKOUT);
         try (Stream<Path> parts = Files.list(Path.of("."))) {
             for (Path part : parts.map(Path::normalize).toList()) {
@@ -114,7 +115,7 @@ public final class ReadmeTest {
     }
 
     private static void copy(Path from, Path to) throws IOException {
-        try (Stream<Path> paths = Files.walk(from)) {
+        try (Stream<Path> paths = Files.walk(from, FileVisitOption.FOLLOW_LINKS)) {
             for (Path path : paths.toList()) {
                 Path target = to.resolve(from.relativize(path).toString());
                 if (Files.isDirectory(path)) {
